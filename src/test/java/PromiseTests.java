@@ -164,6 +164,11 @@ public final class PromiseTests {
         due("commit", x.commit(), LotBooks.DONE);
         due("what is below counts", x.balance(ASSET, 3), 5);
         due("what is below counts", x.balance(8, 3), 5);
+        yes("with all accounts", x.price(1, 3, 7));
+        yes("with all accounts", x.close(3));
+        due("with all accounts", x.balance(23, 3), 7);
+        due("with all accounts", x.printed(23, 3, 2), 4);
+        due("with all accounts", x.printed(EQUITY, 3, 2), -4);
     }
 
     private static void beginning() {
@@ -464,6 +469,28 @@ public final class PromiseTests {
         yes("begin", x.begin(9));
         yes("money", x.money(ASSET, 4));
         due("a draft is not seen", x.weight(5, 0), 0);
+        weighingWhatMovesBack();
+    }
+
+    /** Where long transactions stood, short ones stand later. */
+    private static void weighingWhatMovesBack() {
+        LotBooks x = new LotBooks();
+        for (int n = 0; n < 2; n++) {
+            yes("begin", x.begin(9));
+            for (int k = 0; k < 6; k++) {
+                yes("money", x.money(ASSET, k < 3 ? 5 : -5));
+            }
+            due("commit", x.commit(), LotBooks.DONE);
+        }
+        for (int n = 0; n < 4; n++) {
+            yes("begin", x.begin(4));
+            due("commit", x.commit(), LotBooks.DONE);
+            for (int k = 0; k < 6; k++) {
+                due("without postings", x.weight(0, k), 0);
+                due("without postings", x.weight(n, k), 0);
+                due("moved back", x.weight(n + 1, k), k < 3 ? 5 : -5);
+            }
+        }
     }
 
     private static void pricing() {
@@ -544,6 +571,12 @@ public final class PromiseTests {
         yes("money", x.money(EQUITY, 1));
         yes("rest", x.rest(ASSET));
         due("the last day's check", x.commit(), LotBooks.LATER);
+
+        LotBooks z = new LotBooks();
+        move(z, 5, ASSET, EQUITY, 10);
+        move(z, 6, ASSET, EQUITY, 30);
+        no("the last one alone", z.check(ASSET, 6, 30));
+        yes("all of them", z.check(ASSET, 6, 40));
 
         LotBooks y = new LotBooks();
         move(y, 5, ASSET, INCOME, 10);
@@ -730,6 +763,8 @@ public final class PromiseTests {
         due("beyond an int", y.balance(ASSET, 0), 2400000000L);
         due("beyond an int", y.profit(0), 2400000000L);
         due("beyond an int", y.printed(RETAINED, 0, 1), -2400000000L);
+        due("the last of all lots there can be", y.lot(ASSET, 1, 239), 1000 * PLACE);
+        due("no lot behind it", y.lot(ASSET, 1, 240), LotBooks.NONE);
     }
 
     private static void quantities() {
