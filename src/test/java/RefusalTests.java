@@ -3,8 +3,8 @@ import java.util.List;
 
 // Each reason for which the document lets a call be refused. A row has the call refused for that
 // reason alone: the same call is taken where the reason is missing, or one with other arguments is.
-// "A call that answers false or NONE, and a commit that does not answer DONE, change nothing": all
-// that can be asked and done afterwards is compared with an object that the call was never made on.
+// "A call that answers false or NONE, and a commit that does not answer DONE, change nothing": what
+// the probes ask and do afterwards is answered as by an object that the call was never made on.
 public final class RefusalTests {
     private static final Report REPORT = new Report();
 
