@@ -1,22 +1,13 @@
-import java.io.IOException;
 import java.lang.reflect.Constructor;
 import java.lang.reflect.Field;
 import java.lang.reflect.Method;
 import java.lang.reflect.Modifier;
-import java.nio.file.Files;
-import java.nio.file.Path;
 import java.util.List;
 import java.util.Set;
 import java.util.TreeSet;
-import java.util.regex.Matcher;
-import java.util.regex.Pattern;
 
-// The public face is the document's and no more, and the source keeps to those rules of LANGUAGE.md
-// that can be read off it. Run from the project's root.
+// The public face is the document's and no more (rule 1 of LANGUAGE.md); LanguageTest has the others.
 public final class FaceTest {
-    private static final Path SOURCE = Path.of("src/main/java/LotBooks.java");
-    private static final int LONGEST_METHOD = 60;
-
     private static final List<String> METHODS = List.of(
             "int open(int,int)", "boolean begin(int)", "boolean money(int,int)",
             "boolean acquire(int,int,int,int)", "boolean release(int,int,int,int)", "boolean rest(int)",
@@ -38,12 +29,11 @@ public final class FaceTest {
         }
     }
 
-    public static void main(String[] args) throws IOException, IllegalAccessException {
+    public static void main(String[] args) throws IllegalAccessException {
         theClass();
         theMethods();
         theConstants();
         theClassesInside();
-        theSource(Files.readString(SOURCE));
         System.out.println(wrong == 0 ? "the face is as due" : wrong + " faults");
         if (wrong != 0) {
             System.exit(1);
@@ -106,7 +96,6 @@ public final class FaceTest {
 
     private static void theClassesInside() {
         Class<?>[] inside = LotBooks.class.getDeclaredClasses();
-        same("at most twelve classes", inside.length + 1 <= 12, true);
         for (Class<?> one : inside) {
             same(one.getSimpleName() + " is static", Modifier.isStatic(one.getModifiers()), true);
             same(one.getSimpleName() + " is not public", Modifier.isPublic(one.getModifiers()), false);
@@ -115,38 +104,6 @@ public final class FaceTest {
                     same(field.getName() + " is final", Modifier.isFinal(field.getModifiers()), true);
                 }
             }
-        }
-    }
-
-    private static void theSource(String source) {
-        String code = source.replaceAll("(?s)/\\*.*?\\*/", "").replaceAll("//[^\n]*", "");
-        String banned = "\\b(throw|throws|try|catch|synchronized|assert|package|record|native|volatile"
-                + "|hashCode|toString|Random|Object|System\\.out|nanoTime|currentTimeMillis)\\b|->|::|Exact\\(";
-        Matcher word = Pattern.compile(banned).matcher(code);
-        while (word.find()) {
-            same("a word that LANGUAGE.md leaves out", word.group(), "");
-        }
-        Matcher line = Pattern.compile("import ([^;]*);").matcher(code);
-        while (line.find()) {
-            same(line.group(1) + " may be imported", Set.of("java.util.Arrays", "java.util.ArrayList",
-                    "java.util.List", "java.util.Iterator").contains(line.group(1)), true);
-        }
-        methodsStayShort(code);
-    }
-
-    /** A method's lines are those between its head and the brace that stands under it. */
-    private static void methodsStayShort(String code) {
-        String[] lines = code.split("\n");
-        for (int i = 0; i < lines.length; i++) {
-            Matcher head = Pattern.compile("^( {4,8})(?!if|for|while|switch)\\w.*\\)? \\{$").matcher(lines[i]);
-            if (!head.matches() || lines[i].contains(" class ")) {
-                continue;
-            }
-            int end = i;
-            while (end < lines.length && !lines[end].equals(head.group(1) + "}")) {
-                end++;
-            }
-            same(lines[i].trim() + " is short", end - i <= LONGEST_METHOD, true);
         }
     }
 }

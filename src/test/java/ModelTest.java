@@ -3,7 +3,9 @@ import java.util.HashMap;
 import java.util.List;
 import java.util.Map;
 import java.util.Random;
+import java.util.Set;
 import java.util.TreeMap;
+import java.util.TreeSet;
 
 // Runs of calls, drawn from fixed seeds, on LotBooks and on a plain model that follows the document
 // word by word and works everything out anew for each answer.
@@ -228,12 +230,15 @@ public final class ModelTest {
             if (commodity < 1 || commodity > 4 || !day(day) || closed(day) || p < 0 || p > 10000) {
                 return false;
             }
-            int all = prices.values().stream().mapToInt(Map::size).sum();
-            if (!prices.get(commodity).containsKey(day) && all == 30) {
+            if (!prices.get(commodity).containsKey(day) && allPrices() == 30) {
                 return false;
             }
             prices.get(commodity).put(day, p);
             return true;
+        }
+
+        int allPrices() {
+            return prices.values().stream().mapToInt(Map::size).sum();
         }
 
         int priceOn(int commodity, int day) {
@@ -403,14 +408,17 @@ public final class ModelTest {
         final LotBooks x = new LotBooks();
         final Model m = new Model();
         final List<String> told = new ArrayList<>();
-        /** Narrow runs stay where transactions touch one another; wide ones reach the limits. */
+        /** Narrow runs stay where transactions touch one another; wide ones reach the greatest numbers. */
         final boolean wide;
+        /** Eager runs seldom ask for what is refused, so that the books get full. */
+        final boolean eager;
         boolean differs = false;
         static int done = 0, refusedShort = 0, refusedUnbalanced = 0, refusedLater = 0;
 
         Run(int seed) {
             random = new Random(seed);
             wide = seed % 3 == 0;
+            eager = seed % 3 == 1;
         }
 
         void same(String call, long got, long want) {
@@ -431,7 +439,7 @@ public final class ModelTest {
 
         /** Mostly a good value, now and then one just outside or far off. */
         int near(int least, int most) {
-            int pick = upTo(39);
+            int pick = upTo(eager ? 399 : 39);
             if (pick == 0) {
                 return least - 1;
             }
@@ -445,7 +453,7 @@ public final class ModelTest {
         }
 
         int anyDay() {
-            return wide && upTo(5) == 0 ? near(0, 9999) : near(0, 12);
+            return wide && upTo(5) == 0 ? near(0, 9999) : near(0, eager ? 30 : 12);
         }
 
         int anyAccount() {
@@ -473,7 +481,9 @@ public final class ModelTest {
                     int d = anyDay();
                     same("begin(" + d + ")", x.begin(d), m.begin(d));
                 } else if (pick < 55) {
-                    prices();
+                    for (int i = 0; i < (eager ? 3 : 1); i++) {
+                        prices();
+                    }
                 } else if (pick < 59) {
                     checks();
                 } else if (pick < 63) {
@@ -486,7 +496,7 @@ public final class ModelTest {
                 } else {
                     asked();
                 }
-            } else if (pick < 70) {
+            } else if (pick < (eager ? 60 : 70)) {
                 posted();
             } else if (pick < 90) {
                 committed();
@@ -521,7 +531,7 @@ public final class ModelTest {
         }
 
         void posted() {
-            int pick = upTo(9);
+            int pick = upTo(eager ? 6 : 9);
             if (pick < 2) {
                 int a = anyAccount();
                 int amount = amount();
@@ -536,7 +546,7 @@ public final class ModelTest {
             } else if (pick < 8) {
                 int a = assetAccount();
                 int c = wide ? near(1, 4) : near(1, 2);
-                int q = wide ? near(1, 1000) : near(1, 9);
+                int q = wide ? near(1, 1000) : near(1, eager ? 3 : 9);
                 int how = near(0, 2);
                 same("release(" + a + ", " + c + ", " + q + ", " + how + ")",
                         x.release(a, c, q, how), m.release(a, c, q, how));
@@ -547,6 +557,9 @@ public final class ModelTest {
         }
 
         void committed() {
+            if (eager) {
+                same("rest(2)", x.rest(2), m.rest(2));
+            }
             int how = m.commit();
             same("commit()", x.commit(), how);
             done += how == 0 ? 1 : 0;
@@ -589,6 +602,19 @@ public final class ModelTest {
             }
         }
 
+        /** Which of the document's limits the books have reached. */
+        Set<String> full() {
+            Map<String, Boolean> limits = Map.of(
+                    "24 accounts", m.accounts.size() == 24,
+                    "40 transactions", m.transactions.size() == 40,
+                    "30 prices", m.allPrices() == 30,
+                    "10 checks", m.checks.size() == 10,
+                    "8 closings", m.closings.size() == 8);
+            Set<String> reached = new TreeSet<>(limits.keySet());
+            reached.removeIf(limit -> !limits.get(limit));
+            return reached;
+        }
+
         /** Everything that can be asked of the accounts at the end, on one day. */
         void askAll() {
             for (int a = 0; a < m.accounts.size(); a++) {
@@ -608,6 +634,7 @@ public final class ModelTest {
     public static void main(String[] args) {
         int wrong = 0;
         long calls = 0;
+        Map<String, Integer> full = new TreeMap<>();
         for (int seed = 0; seed < RUNS && wrong < 3; seed++) {
             Run run = new Run(seed);
             while (run.told.size() < CALLS - 170 && !run.differs) {
@@ -617,6 +644,7 @@ public final class ModelTest {
                 run.askAll();
             }
             calls += run.told.size();
+            run.full().forEach(limit -> full.merge(limit, 1, Integer::sum));
             if (run.told.size() > CALLS + 1) {
                 wrong++;
                 System.out.println("seed " + seed + " makes too many calls: " + run.told.size());
@@ -629,7 +657,8 @@ public final class ModelTest {
         }
         System.out.println(calls + " calls alike; commits: " + Run.done + " done, " + Run.refusedShort + " short, "
                 + Run.refusedUnbalanced + " unbalanced, " + Run.refusedLater + " later");
-        if (wrong != 0) {
+        System.out.println("runs that reached a limit: " + full);
+        if (wrong != 0 || full.size() < 5) {
             System.exit(1);
         }
     }
