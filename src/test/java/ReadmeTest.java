@@ -30,7 +30,7 @@ public final class ReadmeTest {
     private static void makeTheCalls(String[] lines) {
         Script books = new Script();
         Map<String, String> variables = new HashMap<>();
-        REPORT.holds("the example makes books first", lines[0].equals(FIRST_LINE));
+        REPORT.holds("the example does not make books first", lines[0].equals(FIRST_LINE));
         for (String line : List.of(lines).subList(1, lines.length)) {
             Matcher call = CALL.matcher(line);
             if (call.matches()) {
@@ -55,18 +55,18 @@ public final class ReadmeTest {
     private static void namesEveryCall(String text) {
         for (Method method : LotBooks.class.getDeclaredMethods()) {
             if (Modifier.isPublic(method.getModifiers())) {
-                REPORT.holds("the example calls " + method.getName(), text.contains("books." + method.getName() + "("));
-                REPORT.holds("the table has " + method.getName(), text.contains("`" + method.getName() + "("));
+                REPORT.holds("the example does not call " + method.getName(), text.contains("books." + method.getName() + "("));
+                REPORT.holds("the table does not have " + method.getName(), text.contains("`" + method.getName() + "("));
             }
         }
     }
 
     private static void namesEveryTest(String text) throws IOException {
-        REPORT.holds("it says how to run the tests", text.contains("```sh\n.ci/run\n```"));
+        REPORT.holds("it does not say how to run the tests", text.contains("```sh\n.ci/run\n```"));
         try (Stream<Path> files = Files.list(TESTS)) {
             files.forEach(file -> {
                 String name = file.getFileName().toString().replace(".java", "");
-                REPORT.holds("it names " + name, text.contains("- `" + name + "` "));
+                REPORT.holds("it does not name " + name, text.contains("- `" + name + "` "));
             });
         }
     }
